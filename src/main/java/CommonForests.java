@@ -38,10 +38,8 @@ public final class CommonForests {
             return NONE;
         }
         Graph graph = graphs[g];
-        if (graph.count >= MOST_EDGES || !graph.canMeet(a) || !graph.canMeet(b)) {
-            return NONE;
-        }
-        return graph.append((1 << a) ^ (1 << b));
+        boolean canMeetBoth = graph.canMeet(a) && graph.canMeet(b);
+        return canMeetBoth ? graph.append((1 << a) ^ (1 << b)) : NONE;
     }
 
     public boolean weigh(int g, int e, int weight) {
@@ -343,7 +341,7 @@ public final class CommonForests {
             return rest;
         }
 
-        /** The edges that make a line's rest of it: all of the way between its ends if that is 0. */
+        /** The edges that turn a line into its rest: if that is 0, the way between the line's ends. */
         int way(int line) {
             int rest = line;
             int way = 0;
